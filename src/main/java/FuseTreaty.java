@@ -50,6 +50,8 @@ public final class FuseTreaty {
     private static final int W_WIRE = 1;
     private static final int W_USE = 2;
     private static final int W_GOES = 3;
+    private static final int W_QUARREL = 4;
+    private static final int W_COSTS = 5;
     private static final int W_PAYS = 6;
     private static final int W_SURGE = 7;
     private static final int W_COINS = 8;
@@ -659,9 +661,41 @@ public final class FuseTreaty {
             wires = 0;
             uses = 0;
             for (int i = 0; i <= MOST_TOKENS && fault == 0 && kind() != T_END; i++) {
-                checkTold();
+                checkTold(kind());
             }
             return fault;
+        }
+
+        private void checkTold(int kind) {
+            switch (kind) {
+                case W_FLAT:
+                    flats++;
+                    checkCounted(flats, MOST_FLATS, 1, 1);
+                    break;
+                case W_WIRE:
+                    wires++;
+                    checkCounted(wires, MOST_WIRES, 2, 1);
+                    break;
+                case W_USE:
+                    uses++;
+                    checkCounted(uses, MOST_USES, 2, 3);
+                    break;
+                case W_GOES:
+                case W_QUARREL:
+                case W_COSTS:
+                case W_PAYS:
+                    checkLaw(kind - W_GOES);
+                    break;
+                case W_SURGE:
+                    checkRow(0, 2);
+                    break;
+                case W_COINS:
+                case W_SEED:
+                    checkRow(0, 1);
+                    break;
+                default:
+                    fault = SYNTAX;
+            }
         }
 
         int faultAt() {
@@ -691,38 +725,25 @@ public final class FuseTreaty {
             return kind() == kind ? step() : fail(SYNTAX);
         }
 
-        private boolean needInts(int count) {
-            for (int i = 0; i < count; i++) {
-                if (!need(T_INT)) {
-                    return false;
-                }
+        /** A TELL that is no law: its word, so many names, so many numbers, and its end. */
+        private void checkRow(int names, int ints) {
+            boolean fine = step();
+            for (int i = 0; i < names && fine; i++) {
+                fine = need(T_NAME);
             }
-            return need(';');
+            for (int i = 0; i < ints && fine; i++) {
+                fine = need(T_INT);
+            }
+            if (fine) {
+                need(';');
+            }
         }
 
-        private boolean oneMore(int count, int most) {
-            return count > most ? fail(ROOM) : step();
-        }
-
-        private boolean checkTold() {
-            int kind = kind();
-            switch (kind) {
-                case W_FLAT:
-                    flats++;
-                    return oneMore(flats, MOST_FLATS) && need(T_NAME) && needInts(1);
-                case W_WIRE:
-                    wires++;
-                    return oneMore(wires, MOST_WIRES) && need(T_NAME) && need(T_NAME) && needInts(1);
-                case W_USE:
-                    uses++;
-                    return oneMore(uses, MOST_USES) && need(T_NAME) && need(T_NAME) && needInts(3);
-                case W_SURGE:
-                    return step() && needInts(2);
-                case W_COINS:
-                case W_SEED:
-                    return step() && needInts(1);
-                default:
-                    return kind >= W_GOES && kind <= W_PAYS ? checkLaw(kind - W_GOES) : fail(SYNTAX);
+        private void checkCounted(int count, int most, int names, int ints) {
+            if (count > most) {
+                fault = ROOM;
+            } else {
+                checkRow(names, ints);
             }
         }
 
@@ -735,17 +756,15 @@ public final class FuseTreaty {
                 if (ifs == MOST_IFS) {
                     return fail(ROOM);
                 }
-                if (!step() || !piece(law, '<') || !piece(law, W_THEN) || !piece(law, W_ELSE)) {
+                if (!step() || !sum(0) || !endPiece(law, '<') || !sum(0) || !endPiece(law, W_THEN)
+                        || !sum(0) || !endPiece(law, W_ELSE)) {
                     return false;
                 }
             }
-            return piece(law, ';');
+            return sum(0) && endPiece(law, ';');
         }
 
-        private boolean piece(int law, int end) {
-            if (!sum(0)) {
-                return false;
-            }
+        private boolean endPiece(int law, int end) {
             laws.endPiece(law);
             return need(end);
         }
@@ -1331,24 +1350,22 @@ public final class FuseTreaty {
             steps[0] = 0;
             for (int far = 1; far < house.flats; far++) {
                 int before = lit;
-                layStep(gone, far);
+                for (int w = 0; w < house.wires; w++) {
+                    if (!has(gone, w)) {
+                        reachBy(w, far);
+                    }
+                }
                 if (lit == before) {
                     break;
                 }
             }
         }
 
-        private void layStep(int gone, int far) {
-            for (int w = 0; w < house.wires; w++) {
-                if (!has(gone, w)) {
-                    reach(house.oneEnd[w], house.otherEnd[w], w, far);
-                    reach(house.otherEnd[w], house.oneEnd[w], w, far);
-                }
-            }
-        }
-
         /** Wires come here from the lowest on, so the first by which a flat is reached is the one of its way. */
-        private void reach(int flat, int nearer, int wire, int far) {
+        private void reachBy(int wire, int far) {
+            boolean nearerFirst = steps[house.oneEnd[wire]] == far - 1;
+            int nearer = nearerFirst ? house.oneEnd[wire] : house.otherEnd[wire];
+            int flat = nearerFirst ? house.otherEnd[wire] : house.oneEnd[wire];
             if (steps[flat] == NONE && steps[nearer] == far - 1) {
                 steps[flat] = far;
                 nextWire[flat] = wire;
@@ -1516,7 +1533,7 @@ public final class FuseTreaty {
         }
 
         private void takePay(State state) {
-            int on = usesNow(state);
+            int on = usesAt(state, state.hourOfDay());
             for (int u = 0; u < house.uses; u++) {
                 if (has(on, u)) {
                     state.coins = Math.min(TOP_COINS, state.coins + payOf(state, u));
@@ -1538,7 +1555,7 @@ public final class FuseTreaty {
 
         /** An hour as far as wires know of it, with a surge of so many amps: the wires that go. */
         int passWires(State state, int surge) {
-            putOn(state, usesNow(state));
+            putOn(state, usesAt(state, state.hourOfDay()));
             int going = going(state, state.hourOfDay(), surge);
             state.gone |= going;
             for (int w = 0; w < house.wires; w++) {
@@ -1600,7 +1617,8 @@ public final class FuseTreaty {
         }
 
         int bestThicker(State state, int k) {
-            int latest = firstGone(state);
+            trial.copy(state);
+            int latest = trialTillGone();
             int best = NOT_SO;
             for (int w = 0; w < house.wires && latest <= MOST_FIRST_HOURS; w++) {
                 if (!has(state.gone, w)) {

@@ -411,6 +411,11 @@ public final class PromiseTest {
         pay("if (0 - 8192 * 8192 * 32) / (0 - 1) < 0 then 8 else 9", 8);
         pay("((((((amps))))))*(1+(1+(1+(1+(1+(1))))))", 30);
         pay("1 - 2", 0);
+        promise = 6;
+        StringBuilder longest = new StringBuilder("flat m 0; quarrel = 1");
+        for (int i = 0; i < 195; i++) longest.append("-1+0".charAt(i % 2 * 2)).append("-1+0".charAt(i % 2 * 2 + 1));
+        eq("the longest law", with(longest + "+90;").flat(0, 4), 0);
+        eq("the longest law", with(longest + "+99;").flat(0, 4), 2);
         promise = 7;
         FuseTreaty x = with("flat m 0; flat a 0; wire m a 5; use u a 4 0 23; goes = if age < 3 then 0 else which + 1;");
         x.hours(3);
@@ -476,6 +481,7 @@ public final class PromiseTest {
         FuseTreaty y = with(PAIR + "coins 10;");
         eq("thicken(0)", y.thicken(0), 5);
         eq("not so many coins", y.thicken(0), -2);
+        eq("just so many coins", with(PAIR + "coins 5;").thicken(0), 0);
         FuseTreaty z = with(PAIR + "goes = 1;");
         z.hours(1);
         eq("it is gone", z.thicken(0), -2);
@@ -782,6 +788,9 @@ public final class PromiseTest {
         eq("99 at most", z.thick(20), -2);
         FuseTreaty v = with("flat m 0; flat a 0; flat b 0; wire m a 5; wire m b 5; use u a 1 0 23; goes = age - rating;");
         eq("one with nothing in it does not help", v.thick(20), 0);
+        FuseTreaty late = with("flat m 0; flat a 0; wire m a 5; use u a 1 0 23; goes = if age < rating + 194 then 0 else 1;");
+        eq("the 200th hour", late.first(0), 200);
+        eq("none goes is later", late.thick(1), 0);
         FuseTreaty w = with("flat m 0; flat a 0; wire m a 5; use u a 6 0 23; coins 0;");
         eq("no coins are asked for", w.thick(1), 0);
     }
