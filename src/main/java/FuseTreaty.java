@@ -1661,14 +1661,13 @@ public final class FuseTreaty {
             return pay;
         }
 
+        /** It is put on in every hour of the day, so its own hours, as they are, count no more than others. */
         int firstStart(State state, int use) {
             int length = house.till[use] - house.from[use] + 1;
-            trial.copy(state);
-            trial.agreed &= ~(1 << use);
             int calm = 0;
             for (int hour = 0; hour < DAY_HOURS; hour++) {
-                current.putOn(trial, current.usesAt(trial, hour) | 1 << use);
-                calm = current.going(trial, hour, 0) == 0 ? calm + 1 : 0;
+                current.putOn(state, current.usesAt(state, hour) | 1 << use);
+                calm = current.going(state, hour, 0) == 0 ? calm + 1 : 0;
                 if (calm >= length) {
                     return hour - length + 1;
                 }
