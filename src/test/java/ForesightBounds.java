@@ -119,6 +119,10 @@ final class ForesightBounds {
         gone.hours(3);
         Says.eq("one that is gone", gone.peak(0, 48, 0), 0);
         Says.eq("one that is gone", gone.peak(0, 48, 1), 0);
+        FuseTreaty pinned = Says.with("flat m 0; flat a 0; wire m a 5; use u a 6 2 2; use v a 9 4 4;");
+        Says.eq("it goes ahead of its greatest load", pinned.peak(0, 48, 0), 6);
+        pinned.pin(0, true);
+        Says.eq("pinned, it does not", pinned.peak(0, 48, 0), 9);
         peakRefused();
     }
 
@@ -152,6 +156,8 @@ final class ForesightBounds {
         x.mend(2);
         Says.eq("sooner", x.first(0), 1);
         Says.eq("sooner", x.first(1), 2);
+        x.pin(2, true);
+        Says.eq("not by one that is pinned", x.first(1), 0);
         Says.eq("as many hours, and it is so", Says.with(goesIn(70), 70).count(6), 0);
         Says.eq("as many hours, and it is so", Says.with(goesIn(70), 71).count(6), 1);
         Says.eq("no wires", new FuseTreaty().first(0), NOT_SO);
@@ -265,6 +271,9 @@ final class ForesightBounds {
         FuseTreaty ways = Says.with("flat m 0; flat a 0; flat b 0; flat c 0; wire m a 5; wire m b 5; wire a c 9; wire b c 9; use u c 6 3 4;");
         Says.eq("one way goes, then the other", ways.first(1), 0);
         Says.eq("the one that goes first helps", ways.thick(1), 0);
+        FuseTreaty pinned = Says.with("flat m 0; flat a 0; flat b 0; wire m a 5; wire a b 5; use u b 6 3 3;");
+        pinned.pin(0, true);
+        Says.eq("one of two is pinned: the other helps", pinned.thick(1), 1);
         thickAlike();
     }
 
@@ -422,6 +431,12 @@ final class ForesightBounds {
         Says.eq("to the most", rich.then(1, 0), 792);
         Says.eq("no more than the most", rich.then(72, 0), 792);
         Says.eq("quarrels go on", rich.then(72, 1), 72 * 99);
+        FuseTreaty pinned = Says.with(goesIn(0));
+        Says.eq("it goes", pinned.then(1, 2), 1);
+        Says.eq("it goes", pinned.litIn(1, 1), 0);
+        pinned.pin(0, true);
+        Says.eq("pinned, it does not", pinned.then(72, 2), 0);
+        Says.eq("pinned, it does not", pinned.litIn(1, 72), 1);
         for (int n : new int[] {-1, 73}) {
             Says.refused(ForesightBounds::busy, "then(" + n + ", 0)", x -> x.then(n, 0), NONE);
             Says.refused(ForesightBounds::busy, "litIn(0, " + n + ")", x -> x.litIn(0, n), NONE);
@@ -451,6 +466,8 @@ final class ForesightBounds {
         Says.eq("not in 71", y.year(71, 20), 20);
         FuseTreaty gone = Says.with(goesIn(3), 4);
         Says.eq("no wire more", gone.year(72, 20), 20);
+        y.pin(0, true);
+        Says.eq("pinned, it does not", y.year(72, 20), 20);
         for (int n : new int[] {-1, 73}) Says.refused(ForesightBounds::busy, "year(" + n + ", 1)", x -> x.year(n, 1), NONE);
         for (int s : new int[] {0, -1, 21}) Says.refused(ForesightBounds::busy, "year(1, " + s + ")", x -> x.year(1, s), NONE);
     }
