@@ -268,6 +268,10 @@ final class ForesightBounds {
         FuseTreaty later = Says.with("flat m 0; flat a 0; wire m a 5; use u a 1 0 23; goes = if age < rating * 39 then 0 else 1;");
         Says.eq("the 196th hour", later.first(0), 196);
         Says.eq("none goes in 200: latest of all", later.thick(1), 0);
+        FuseTreaty last = Says.with("flat m 0; flat a 0; wire m a 5; use u a 1 0 23; goes = if age < rating + 194 then 0 else 1;");
+        Says.eq("the 200th hour", last.first(0), 200);
+        Says.eq("none goes in 200: later than now", last.thick(1), 0);
+        Says.eq("none goes now", Says.with("flat m 0; flat a 0; wire m a 6; use u a 1 0 23; goes = if age < rating + 194 then 0 else 1;").thick(1), NOT_SO);
         FuseTreaty ways = Says.with("flat m 0; flat a 0; flat b 0; flat c 0; wire m a 5; wire m b 5; wire a c 9; wire b c 9; use u c 6 3 4;");
         Says.eq("one way goes, then the other", ways.first(1), 0);
         Says.eq("the one that goes first helps", ways.thick(1), 0);

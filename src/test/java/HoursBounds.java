@@ -146,6 +146,18 @@ final class HoursBounds {
             for (int i = 0; i < 4; i++) law.append("if ").append(holds).append(" < ").append(i + 1).append(" then ").append(10 + i).append(" else ");
             pay(law + "14", 10 + holds);
         }
+        longestLaws();
+    }
+
+    /** A text of 400 TOKENS with one law in it; a law with as many ifs as can be; laws with as many ( as can be. */
+    private static void longestLaws() {
+        String ahead = "flat m 0; use u m 1 0 23; pays = ";
+        Says.eq("a law as long as can be", Says.with("flat m 0; quarrel = 5" + "+1-1".repeat(97) + "+9-2;").flat(0, 4), 12);
+        StringBuilder ifs = new StringBuilder(ahead);
+        for (int i = 0; i < 4; i++) ifs.append("if 2").append("+1-1".repeat(7)).append(" < 1").append("*1/1".repeat(7)).append(" then 3 else ");
+        Says.eq("long ifs", Says.with(ifs + "7" + "+0".repeat(40) + ";").use(0, 6), 7);
+        Says.eq("as deep as can be", Says.with(ahead + "1+2*(1+2*(1+2*(1+2*(1+2*(1+2*3)))))-99-97;").use(0, 6), 59);
+        Says.eq("as deep on both sides", Says.with(ahead + "((((((2))))))*((((((3))))))-(1-(2-(3-(4-(5-(6))))));").use(0, 6), 9);
     }
 
     private static void lawWraps() {
@@ -496,6 +508,13 @@ final class HoursBounds {
         Says.eq("not pinned", y.wire(0, 5), 0);
         Says.eq("its rating stays", y.wire(0, 2), 5);
         Says.eq("no pins", y.count(14), 0);
+        FuseTreaty others = Says.with("flat m 0; flat a 0; flat b 0; flat c 0; wire m a 5; wire m b 5; wire m c 5; use u b 6 0 0;");
+        others.pin(0, true);
+        others.pin(2, true);
+        others.hours(1);
+        Says.eq("gone", others.count(6), 2);
+        Says.eq("mended", others.mend(1), 101);
+        Says.eq("the others are pinned still", others.count(14), 5);
         y.hours(4);
         Says.eq("whole for four hours", y.count(6), 0);
         y.hours(1);

@@ -201,7 +201,10 @@ final class TermsBounds {
             "surge", "surge 1", "coins", "seed", "goes", "goes =", "costs", "quarrel ="}) {
             Says.fault(row + ";", 1, row.length());
         }
-        for (String word : new String[] {"goes", "quarrel", "costs", "pays"}) told("", word, "=", "1", ";");
+        for (String word : new String[] {"goes", "quarrel", "costs", "pays"}) {
+            told("", word, "=", "1", ";");
+            for (String rest : new String[] {" 1;", " (1);", " load;", " if 1 < 2 then 3 else 4;", " + 1;"}) Says.fault(word + rest, 1, word.length() + 1);
+        }
         told("", "surge", "1", "1", ";");
         told("", "coins", "1", ";");
         told("", "seed", "1", ";");
@@ -280,6 +283,7 @@ final class TermsBounds {
     private static void wires() {
         Says.says("WIRES, 10 at most (two FLATS, either way, RATING 1 .. 99),");
         Says.eq("10 wires", Says.with(TEN).count(1), 10);
+        fullHouse();
         Says.fault(TEN + "wire b g 1;", 2, TEN.length());
         Says.eq("rating 1", Says.with(AB + "wire a b 1;").wire(0, 2), 1);
         Says.eq("rating 99", Says.with(AB + "wire a b 99;").wire(0, 2), 99);
@@ -309,6 +313,49 @@ final class TermsBounds {
             Says.eq("from " + h, Says.with(use + "1 " + h + " " + h + ";").use(0, 3), h);
             if (h > 0) Says.fault(use + "1 " + h + " " + (h - 1) + ";", 5, use.length() + 3 + (h > 9 ? 2 : 1));
         }
+    }
+
+    /** As many of each sort as there can be: the last flat, wire and use are as good as the others. */
+    private static void fullHouse() {
+        StringBuilder text = new StringBuilder(TEN.replace(" 1;", " 5;").replace("wire b f 5", "wire f g 9"));
+        for (char c = 'p'; c < 'x'; c++) text.append("use ").append(c).append(c == 'w' ? " g 6 3 3;" : " b 1 0 1;");
+        FuseTreaty x = Says.with(text + "goes = if which < 5 then 0 else load - rating; costs = 1; quarrel = 1; pays = 1;");
+        Says.eq("the last use in the last flat's wire", x.peak(5, 48, 0), 6);
+        Says.eq("the last wire comes into its own", x.peak(9, 48, 0), 6);
+        Says.eq("the last wire comes into its own", x.peak(9, 48, 1), 27);
+        Says.eq("first", x.first(0), 4);
+        Says.eq("first", x.first(1), 5);
+        Says.eq("thick", x.thick(1), 5);
+        Says.eq("together", x.together(1), 127);
+        Says.eq("when", x.when(7), -2);
+        Says.eq("cut", x.cut(6, NONE), 2);
+        Says.eq("cut", x.cut(6, 0), 4);
+        Says.eq("cut", x.cut(6, 1), 5);
+        Says.eq("clash", x.clash(6, 7), 0);
+        Says.eq("hottest", x.hottest(0), 0);
+        Says.eq("hottest", x.hottest(1), 2);
+        Says.eq("needed", x.needed(), 0);
+        Says.eq("share", x.share(6, 9), 0);
+        Says.eq("then", x.then(4, 2), 1);
+        Says.eq("litIn", x.litIn(6, 4), 1);
+        Says.eq("year", x.year(4, 20), 0);
+        Says.eq("went", x.went(0, 1), 1023);
+        Says.eq("hours", x.hours(4), 4);
+        Says.eq("gone", x.count(6), 32);
+        Says.eq("by the last wire", x.way(6, 0), 9);
+        Says.eq("by the last wire", x.way(6, 1), 4);
+        Says.eq("needed", x.needed(), 16 + 512);
+        Says.eq("without", x.without(9), 64);
+        Says.is("pin", x.pin(9, true), true);
+        Says.eq("thicken", x.thicken(9), 114);
+        Says.eq("rating", x.wire(9, 2), 10);
+        Says.eq("tell", x.tell(6, false), 0);
+        Says.eq("went", x.went(1, 1), 16 + 512);
+        Says.eq("ask", x.ask(0), 6);
+        Says.is("agree", x.agree(7, false), true);
+        Says.eq("agreed", x.use(7, 4), 0);
+        Says.eq("mend", x.mend(5), 113);
+        Says.eq("thick, where none helps", Says.with(text + "goes = 1;").thick(20), -2);
     }
 
     private static void numbered() {
@@ -568,6 +615,10 @@ final class TermsBounds {
             Says.eq("a long law", Texts.read(laws, longest + "(0-9" + i + ")+89;"), 0);
             Says.eq("what it tells", laws.use(0, 6), i + 1);
         }
+        Says.eq("a law with an if", Texts.read(laws, "flat m 0;use u m 7 0 23;pays = if 1 < 2 then 50 else 4;"), 0);
+        Says.eq("what it tells", laws.use(0, 6), 50);
+        Says.eq("a law with none", Texts.read(laws, "flat m 0;use u m 7 0 23;pays = 1;"), 0);
+        Says.eq("what it tells", laws.use(0, 6), 1);
         Says.eq("no law", Texts.read(laws, "flat m 0;use u m 7 0 23;"), 0);
         Says.eq("as if not told", laws.use(0, 6), 7);
         FuseTreaty surges = Says.with(Says.PAIR + "surge 100 19;seed 77;coins 3;");
